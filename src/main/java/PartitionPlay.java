@@ -80,9 +80,6 @@ public final class PartitionPlay {
         if (namesLetter(kind) && !isLetter(a) || hasWait(kind) && !isWait(b)) {
             return OUTSIDE;
         }
-        if (schedule.size >= MOST_EVENTS) {
-            return ROOM;
-        }
         return schedule.add(kind, isTimed(kind) ? turn : 0, kind == HEAL ? 0 : a, hasWait(kind) ? b : 0);
     }
 
@@ -313,6 +310,7 @@ public final class PartitionPlay {
             return event >= 0 && event < size;
         }
 
+        /** The new EVENT's number, or ROOM. */
         int add(int kind, int turn, int a, int b) {
             if (size >= MOST_EVENTS) {
                 return ROOM;

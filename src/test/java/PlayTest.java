@@ -6,6 +6,7 @@ public final class PlayTest {
         playRefuses();
         aPlayIsUntilTheNext();
         theLargestPlay();
+        nobodyIsUp();
         questionsRefuse();
         aPartAndItsHealing();
         anEmptyAndAFullPartPartNobody();
@@ -65,6 +66,20 @@ public final class PlayTest {
         Due.due("letter 1000's turn", x.letter(1000, 2), 33);
         Due.due("letter 1000 is taken in", x.letter(1000, 6), 20);
         Due.due("taken in", x.count(5), 1170 + 19);
+    }
+
+    private static void nobodyIsUp() {
+        PartitionPlay x = new PartitionPlay(2);
+        x.event(2, 0, 0, 0);
+        x.event(2, 0, 1, 0);
+        Due.due("nobody is up: play(5)", x.play(5), 0);
+        Due.due("nobody is up: letters", x.count(3), 0);
+        Due.due("nobody is up: holds", x.holds(4), 1);
+        Due.due("nobody is up: letter(0, 0)", x.letter(0, 0), UNKNOWN);
+        Due.due("nobody is up: sets(5)", x.sets(5), 0);
+        x.event(3, 4, 1, 0);
+        x.play(5);
+        Due.dueText("one rises", Face.heights(x, 4), "0,1");
     }
 
     private static void questionsRefuse() {
