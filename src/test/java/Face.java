@@ -46,6 +46,33 @@ final class Face {
         return text.toString();
     }
 
+    /** Behaviours and delays: each is read by setting it, and set back. */
+    static String ofSettings(PartitionPlay x) {
+        StringBuilder text = new StringBuilder("behaviours");
+        for (int node = 0; node < x.count(0); node++) {
+            int kind = x.behaviour(node, 0);
+            x.behaviour(node, kind);
+            text.append(' ').append(kind);
+        }
+        text.append("\ndelays");
+        for (int from = 0; from < x.count(0); from++) {
+            for (int to = 0; to < x.count(0); to++) {
+                int turns = x.delay(from, to, 1);
+                x.delay(from, to, turns);
+                text.append(' ').append(turns);
+            }
+        }
+        return text.toString();
+    }
+
+    /** All that can be asked now, and, as that is the one way to see what was told, a play of one turn. */
+    static String ofAllAndANewPlay(PartitionPlay x) {
+        StringBuilder text = new StringBuilder();
+        text.append(ofSettings(x)).append('\n').append(ofSchedule(x)).append('\n').append(ofPlay(x));
+        x.play(1);
+        return text.append("\nanew ").append(ofPlay(x)).toString();
+    }
+
     /** Heights behind a turn, as "1,2,3". */
     static String heights(PartitionPlay x, int turn) {
         StringBuilder text = new StringBuilder();
