@@ -41,6 +41,7 @@ public final class EdgesOfPlayTest {
         countAnotherWhat();
         countWithoutAPlay();
         countOfTheFullest();
+        countOfTheMostComings();
         Due.end();
     }
 
@@ -445,5 +446,22 @@ public final class EdgesOfPlayTest {
         for (int what = 0; what <= 6; what++) {
             Due.due("count(" + what + ")", x.count(what), due[what]);
         }
+    }
+
+    private static void countOfTheMostComings() {
+        Due.about("18: 5 taken in (comings), 6 comings that were gone: the most");
+        PartitionPlay x = new PartitionPlay(6);
+        for (int i = 0; i < 20; i++) {
+            x.event(DOUBLE, 0, 1139, 1);
+        }
+        x.play(40);
+        Due.due("count(5)", x.count(5), 1170 + 20);
+        Due.due("letter(1139, 6)", x.letter(1139, 6), 21);
+        Due.due("letter(1169, 6), behind all these", x.letter(1169, 6), 1);
+        x.drop(0);
+        x.event(PART, 39, 1 << 5, 0);
+        x.play(40);
+        Due.due("count(5), parted at the last turn", x.count(5), 1170 - 10);
+        Due.due("count(6), parted at the last turn", x.count(6), 10 + 19);
     }
 }

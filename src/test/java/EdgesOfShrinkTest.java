@@ -16,6 +16,7 @@ public final class EdgesOfShrinkTest {
         shrinkWithoutThoseThatWent();
         shrinkOfAsManyTurns();
         shrinkMakesThePlayAnew();
+        eventsBehindAShrink();
         minimalWithoutAPlay();
         minimalOfNoEvents();
         minimalOfOneThatDoesNotFail();
@@ -196,6 +197,18 @@ public final class EdgesOfShrinkTest {
         Due.due("height(3, 1), without the crash", x.height(3, 1), 4);
         x.play(6);
         Due.dueText("THE PLAY", play, Face.ofPlay(x));
+    }
+
+    private static void eventsBehindAShrink() {
+        Due.about("15: EVENTS of THE SCHEDULE go: those told later do not");
+        PartitionPlay x = fullAndFailing();
+        x.play(3);
+        x.shrink();
+        for (int number = 2; number < 20; number++) {
+            x.event(DOUBLE, 0, 0, 1);
+            x.play(3);
+            Due.due("letter(0, 6) with " + number, x.letter(0, 6), number);
+        }
     }
 
     private static void minimalWithoutAPlay() {

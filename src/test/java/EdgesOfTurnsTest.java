@@ -10,6 +10,8 @@ public final class EdgesOfTurnsTest {
         eventsBehindTheLastTurn();
         aRiseOfOneThatIsUp();
         aRiseOfOneThatWasDown();
+        aRiseIsShownNothingByEachOther();
+        aRiseIsShownNoughtAndNoMore();
         aRiseLeavesWhatTheOthersWereShown();
         aRiseLeavesHeightAndRumours();
         twoCrashesAndOneRise();
@@ -25,6 +27,7 @@ public final class EdgesOfTurnsTest {
         multiplesOfFour();
         oneLetterWhereBothReasonsHold();
         oneThatKeepsStill();
+        whatOneSaysOfItself();
         lettersToThoseWhoCannotGetThem();
         lettersAreNumberedFromNought();
         lateOnesTogether();
@@ -32,6 +35,7 @@ public final class EdgesOfTurnsTest {
         lostHoweverElseItIsNamed();
         eachDoubleMakesOneMore();
         theRuleAtHalf();
+        theRuleOfEachNode();
         theRuleAtOneLess();
         theRuleWhereHonestOnesAreAtNought();
         theRuleWhereNobodyIsHonest();
@@ -119,6 +123,30 @@ public final class EdgesOfTurnsTest {
         x.event(RISE, 2, 0, 0);
         x.play(3);
         Due.due("of three: height(2, 0)", x.height(2, 0), 2);
+    }
+
+    private static void aRiseIsShownNothingByEachOther() {
+        Due.about("2 (1): was SHOWN nothing (0) by all: by each one alone");
+        for (int risen = 0; risen < 2; risen++) {
+            PartitionPlay x = new PartitionPlay(2);
+            x.behaviour(1 - risen, 1);
+            x.event(LOSE, 0, 3 - risen, 0);
+            x.event(CRASH, 2, risen, 0);
+            x.event(RISE, 2, risen, 0);
+            x.play(3);
+            Due.due("height(1, " + risen + ")", x.height(1, risen), 2);
+            Due.due("height(2, " + risen + ")", x.height(2, risen), 2);
+        }
+    }
+
+    private static void aRiseIsShownNoughtAndNoMore() {
+        Due.about("2 (1): was SHOWN nothing (0): not 1");
+        PartitionPlay x = new PartitionPlay(2);
+        x.event(LOSE, 0, 1, 0);
+        x.event(CRASH, 1, 0, 0);
+        x.event(RISE, 1, 0, 0);
+        x.play(2);
+        Due.dueText("heights", Face.heights(x, 1), "1,2");
     }
 
     private static void aRiseLeavesWhatTheOthersWereShown() {
@@ -306,6 +334,25 @@ public final class EdgesOfTurnsTest {
         Due.due("all keep still: letters", x.count(3), 0);
     }
 
+    private static void whatOneSaysOfItself() {
+        Due.about("2 (4): with its HEIGHT (3 more of one that BOASTS, 0 of one that FORGETS)");
+        int[] first = {1, 4, 0, 0};
+        int[] last = {40, 43, 0, 0};
+        PartitionPlay x = new PartitionPlay(6);
+        for (int kind = 0; kind <= 3; kind++) {
+            x.behaviour(kind, kind);
+        }
+        x.play(40);
+        for (int k = 0; k < x.count(3); k++) {
+            int sender = x.letter(k, 0);
+            int turn = x.letter(k, 2);
+            if (sender <= 3 && (turn == 0 || turn == 39)) {
+                Due.due("letter(" + k + ", 3)", x.letter(k, 3), (turn == 0 ? first : last)[sender]);
+            }
+        }
+        Due.due("letters", x.count(3), 40 * 5 * 5);
+    }
+
     private static void lettersToThoseWhoCannotGetThem() {
         Due.about("2 (4): a LETTER to each other NODE: that is DOWN, or of another GROUP");
         PartitionPlay x = new PartitionPlay(3);
@@ -403,6 +450,23 @@ public final class EdgesOfTurnsTest {
                 Due.due(made + "play(3)", x.play(3), 3);
                 Due.due(made + "holds(2)", x.holds(2), fails ? 0 : 1);
                 Due.due(made + "fails()", x.fails(), fails ? 2 : NONE);
+            }
+        }
+    }
+
+    private static void theRuleOfEachNode() {
+        Due.about("THE RULE: the greatest HEIGHT of HONEST NODES: of each one alone");
+        for (int n = 2; n <= 6; n++) {
+            for (int honest = 0; honest < n; honest++) {
+                PartitionPlay x = new PartitionPlay(n);
+                for (int node = 0; node < n; node++) {
+                    if (node != honest) {
+                        x.behaviour(node, 1);
+                        x.event(CRASH, 1, node, 0);
+                    }
+                }
+                Due.due("node " + honest + " of " + n + " alone: play(3)", x.play(3), 3);
+                Due.due("fails()", x.fails(), 2);
             }
         }
     }

@@ -1,15 +1,14 @@
-/** Promises 8 to 14 and 18: play, height, holds, fails, letter, reached, bytes, count. */
+/**
+ * Promises 8 to 14 and 18, in ordinary use: play, height, holds, fails, letter, reached, bytes, count.
+ * EdgesOfPlayTest has their edges, and EdgesOfTurnsTest those of a turn's steps and of the rule.
+ */
 public final class PlayTest {
-    private static final int NONE = -1, UNKNOWN = -2, OUTSIDE = -3, STATE = -4;
+    private static final int NONE = -1, UNKNOWN = -2;
 
     public static void main(String[] args) {
-        playRefuses();
-        aPlayIsUntilTheNext();
         theLargestPlay();
         nobodyIsUp();
-        questionsRefuse();
         aPartAndItsHealing();
-        anEmptyAndAFullPartPartNobody();
         aCrashAndARise();
         aRiseForgetsWhatWasShown();
         eventsOfATurnGoByNumber();
@@ -21,32 +20,6 @@ public final class PlayTest {
         theRuleIsOfHonestNodes();
         rumoursAndBytes();
         Due.end();
-    }
-
-    private static void playRefuses() {
-        PartitionPlay x = new PartitionPlay(2);
-        for (int turns : new int[] {0, -1, 41, Integer.MIN_VALUE, Integer.MAX_VALUE}) {
-            Due.due("play(" + turns + ")", x.play(turns), OUTSIDE);
-        }
-        Due.due("count(2)", x.count(2), 0);
-        Due.due("fails", x.fails(), STATE);
-        Due.due("play(1)", x.play(1), 1);
-        Due.due("count(2)", x.count(2), 1);
-    }
-
-    private static void aPlayIsUntilTheNext() {
-        PartitionPlay x = new PartitionPlay(2);
-        Due.due("play(40)", x.play(40), 40);
-        Due.due("height(39, 1)", x.height(39, 1), 40);
-        Due.due("count(3)", x.count(3), 80);
-        Due.due("play(2)", x.play(2), 2);
-        Due.due("height(1, 1)", x.height(1, 1), 2);
-        Due.due("height(2, 1)", x.height(2, 1), UNKNOWN);
-        Due.due("holds(2)", x.holds(2), UNKNOWN);
-        Due.due("count(3)", x.count(3), 4);
-        Due.due("letter(3, 0)", x.letter(3, 0), 1);
-        Due.due("letter(4, 0)", x.letter(4, 0), UNKNOWN);
-        Due.due("count(5)", x.count(5), 2);
     }
 
     private static void theLargestPlay() {
@@ -82,33 +55,6 @@ public final class PlayTest {
         Due.dueText("one rises", Face.heights(x, 4), "0,1");
     }
 
-    private static void questionsRefuse() {
-        PartitionPlay x = new PartitionPlay(3);
-        Due.due("reached(8) of no play", x.reached(8), UNKNOWN);
-        Due.due("bytes(3) of no play", x.bytes(3), UNKNOWN);
-        Due.due("count(7) of no play", x.count(7), UNKNOWN);
-        x.play(5);
-        Due.due("height(-1, 0)", x.height(-1, 0), UNKNOWN);
-        Due.due("height(5, 0)", x.height(5, 0), UNKNOWN);
-        Due.due("height(0, -1)", x.height(0, -1), UNKNOWN);
-        Due.due("height(0, 3)", x.height(0, 3), UNKNOWN);
-        Due.due("height(4, 2)", x.height(4, 2), 5);
-        Due.due("holds(-1)", x.holds(-1), UNKNOWN);
-        Due.due("holds(5)", x.holds(5), UNKNOWN);
-        Due.due("holds(4)", x.holds(4), 1);
-        Due.due("letter(-1, 0)", x.letter(-1, 0), UNKNOWN);
-        Due.due("letter(30, 0)", x.letter(30, 0), UNKNOWN);
-        Due.due("letter(29, -1)", x.letter(29, -1), UNKNOWN);
-        Due.due("letter(29, 7)", x.letter(29, 7), UNKNOWN);
-        Due.due("letter(29, 1)", x.letter(29, 1), 1);
-        Due.due("reached(-1)", x.reached(-1), UNKNOWN);
-        Due.due("reached(8)", x.reached(8), UNKNOWN);
-        Due.due("bytes(-1)", x.bytes(-1), UNKNOWN);
-        Due.due("bytes(3)", x.bytes(3), UNKNOWN);
-        Due.due("count(-1)", x.count(-1), UNKNOWN);
-        Due.due("count(7)", x.count(7), UNKNOWN);
-    }
-
     private static void aPartAndItsHealing() {
         for (int set : new int[] {1, 6}) {
             PartitionPlay x = new PartitionPlay(3);
@@ -125,17 +71,6 @@ public final class PlayTest {
             Due.due("parted: letter 0 came", x.letter(0, 5), 1);
             Due.due("parted: letter 3 is taken in", x.letter(3, 6), 1);
             Due.due("parted: none is lost", x.count(4), 0);
-        }
-    }
-
-    private static void anEmptyAndAFullPartPartNobody() {
-        for (int set : new int[] {0, 15}) {
-            PartitionPlay x = new PartitionPlay(4);
-            x.event(0, 1, 5, 0);
-            x.event(0, 2, set, 0);
-            x.play(4);
-            Due.dueText("of one group: turn 1", Face.heights(x, 1), "1,1,1,1");
-            Due.due("of one group: gone at turn 1 alone", x.count(6), 8);
         }
     }
 

@@ -1,56 +1,14 @@
-/** Promises 1 to 4: a new object, behaviour, delay, tell. */
+/** Promises 1 to 4, in ordinary use: a new object, behaviour, delay, tell. EdgesOfSettingsTest has their edges. */
 public final class SettingsTest {
-    private static final int NONE = -1, UNKNOWN = -2, OUTSIDE = -3, STATE = -4;
-
     public static void main(String[] args) {
-        nodesAreClamped();
-        aNewObjectHasNothing();
         behaviourAnswersWhatItWas();
-        behaviourRefuses();
         aBoasterSaysThreeMore();
         oneThatKeepsStillSendsNothing();
         oneThatForgetsSaysNought();
         delayAnswersWhatItWas();
-        delayRefuses();
         delayIsOfOneDirection();
         tellCounts();
-        tellRefuses();
-        settingsLeaveThePlay();
         Due.end();
-    }
-
-    private static void nodesAreClamped() {
-        int[][] givenAndDue = {
-            {Integer.MIN_VALUE, 2}, {-1, 2}, {0, 2}, {1, 2}, {2, 2}, {3, 3}, {4, 4}, {5, 5}, {6, 6}, {7, 6}, {Integer.MAX_VALUE, 6}};
-        for (int[] row : givenAndDue) {
-            PartitionPlay x = new PartitionPlay(row[0]);
-            Due.due("new " + row[0] + ": count(0)", x.count(0), row[1]);
-            Due.due("the last node", x.behaviour(row[1] - 1, 0), 0);
-            Due.due("one node more", x.behaviour(row[1], 0), UNKNOWN);
-        }
-    }
-
-    private static void aNewObjectHasNothing() {
-        PartitionPlay x = new PartitionPlay(3);
-        for (int what = 1; what <= 6; what++) {
-            Due.due("new: count(" + what + ")", x.count(what), 0);
-        }
-        Due.due("new: fails", x.fails(), STATE);
-        Due.due("new: height", x.height(0, 0), UNKNOWN);
-        Due.due("new: holds", x.holds(0), UNKNOWN);
-        Due.due("new: letter", x.letter(0, 0), UNKNOWN);
-        Due.due("new: reached", x.reached(0), STATE);
-        Due.due("new: bytes", x.bytes(0), STATE);
-        Due.due("new: shrink", x.shrink(), STATE);
-        Due.due("new: minimal", x.minimal(), STATE);
-        Due.due("new: sets", x.sets(0), STATE);
-        Due.due("new: drop", x.drop(0), UNKNOWN);
-        Due.due("new: told", x.told(0, 0), UNKNOWN);
-        for (int node = 0; node < 3; node++) {
-            Due.due("new: behaviour", x.behaviour(node, 0), 0);
-            Due.due("new: delay", x.delay(node, (node + 1) % 3, 1), 1);
-            Due.due("new: told to it", x.tell(node, 0), 1);
-        }
     }
 
     private static void behaviourAnswersWhatItWas() {
@@ -60,17 +18,6 @@ public final class SettingsTest {
         Due.due("behaviour(0, 3)", x.behaviour(0, 3), 2);
         Due.due("behaviour(0, 0)", x.behaviour(0, 0), 3);
         Due.due("behaviour(1, 0)", x.behaviour(1, 0), 0);
-    }
-
-    private static void behaviourRefuses() {
-        PartitionPlay x = new PartitionPlay(4);
-        x.behaviour(3, 2);
-        Due.due("behaviour(-1, 0)", x.behaviour(-1, 0), UNKNOWN);
-        Due.due("behaviour(4, 0)", x.behaviour(4, 0), UNKNOWN);
-        Due.due("behaviour(4, 4)", x.behaviour(4, 4), UNKNOWN);
-        Due.due("behaviour(3, 4)", x.behaviour(3, 4), OUTSIDE);
-        Due.due("behaviour(3, -1)", x.behaviour(3, -1), OUTSIDE);
-        Due.due("behaviour(3, 2)", x.behaviour(3, 2), 2);
     }
 
     private static void aBoasterSaysThreeMore() {
@@ -122,21 +69,6 @@ public final class SettingsTest {
         Due.due("delay(0, 5, 1)", x.delay(0, 5, 1), 2);
     }
 
-    private static void delayRefuses() {
-        PartitionPlay x = new PartitionPlay(3);
-        x.delay(0, 1, 4);
-        Due.due("delay(0, 0, 1)", x.delay(0, 0, 1), UNKNOWN);
-        Due.due("delay(-1, 0, 1)", x.delay(-1, 0, 1), UNKNOWN);
-        Due.due("delay(0, -1, 1)", x.delay(0, -1, 1), UNKNOWN);
-        Due.due("delay(3, 0, 1)", x.delay(3, 0, 1), UNKNOWN);
-        Due.due("delay(0, 3, 1)", x.delay(0, 3, 1), UNKNOWN);
-        Due.due("delay(7, 7, 9)", x.delay(7, 7, 9), UNKNOWN);
-        Due.due("delay(2, 2, 0)", x.delay(2, 2, 0), UNKNOWN);
-        Due.due("delay(0, 1, 0)", x.delay(0, 1, 0), OUTSIDE);
-        Due.due("delay(0, 1, 6)", x.delay(0, 1, 6), OUTSIDE);
-        Due.due("delay(0, 1, 1)", x.delay(0, 1, 1), 4);
-    }
-
     private static void delayIsOfOneDirection() {
         PartitionPlay x = new PartitionPlay(2);
         x.delay(0, 1, 5);
@@ -167,34 +99,5 @@ public final class SettingsTest {
         x.play(2);
         Due.due("reached(6) a turn later", x.reached(6), 2);
         Due.due("what is heard is not told", x.tell(0, 7), 1);
-    }
-
-    private static void tellRefuses() {
-        PartitionPlay x = new PartitionPlay(5);
-        Due.due("tell(-1, 0)", x.tell(-1, 0), UNKNOWN);
-        Due.due("tell(5, 0)", x.tell(5, 0), UNKNOWN);
-        Due.due("tell(0, -1)", x.tell(0, -1), UNKNOWN);
-        Due.due("tell(0, 8)", x.tell(0, 8), UNKNOWN);
-        Due.due("tell(0, 32)", x.tell(0, 32), UNKNOWN);
-        Due.due("tell(0, 0)", x.tell(0, 0), 1);
-    }
-
-    private static void settingsLeaveThePlay() {
-        PartitionPlay x = new PartitionPlay(3);
-        x.tell(0, 2);
-        x.play(9);
-        String before = Face.ofPlay(x);
-        x.behaviour(0, 1);
-        x.behaviour(1, 2);
-        x.delay(0, 1, 5);
-        x.tell(1, 4);
-        x.event(0, 1, 1, 0);
-        x.event(4, 0, 0, 0);
-        Due.dueText("THE PLAY behind new settings", Face.ofPlay(x), before);
-        x.drop(1);
-        Due.due("play(0)", x.play(0), OUTSIDE);
-        Due.due("play(41)", x.play(41), OUTSIDE);
-        Due.dueText("THE PLAY behind refusals", Face.ofPlay(x), before);
-        Due.due("THE PLAY does not fail", x.fails(), NONE);
     }
 }

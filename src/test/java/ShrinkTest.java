@@ -1,18 +1,16 @@
-/** Promises 15 to 17: shrink, minimal, sets. */
+/** Promises 15 to 17, in ordinary use: shrink, minimal, sets. EdgesOfShrinkTest has their edges. */
 public final class ShrinkTest {
-    private static final int NONE = -1, OUTSIDE = -3, STATE = -4;
+    private static final int NONE = -1, STATE = -4;
 
     public static void main(String[] args) {
         shrinkLeavesWhatIsNeeded();
         shrinkGoesFromTheLastToTheFirst();
-        shrinkRefuses();
         shrinkPlaysByTheNewSettings();
         minimalOrNot();
         aFailureWithoutEvents();
         setsOfLetters();
         setsBesideTheSchedule();
-        setsRefuse();
-        thePlayStays();
+        theExampleOfTheReadme();
         Due.end();
     }
 
@@ -57,20 +55,6 @@ public final class ShrinkTest {
         x.play(3);
         Due.due("the losses go first", x.shrink(), 1);
         Due.dueText("the crash is left", Face.ofSchedule(x), "2,1,0,0;");
-    }
-
-    private static void shrinkRefuses() {
-        PartitionPlay x = boaster();
-        x.event(4, 0, 1, 0);
-        x.event(4, 0, 2, 0);
-        x.event(1, 0, 0, 0);
-        Due.due("no play", x.shrink(), STATE);
-        x.play(2);
-        String before = Face.ofPlay(x);
-        Due.due("no failure in so few turns", x.shrink(), STATE);
-        Due.due("the events stay", x.count(1), 3);
-        Due.dueText("THE PLAY stays", Face.ofPlay(x), before);
-        Due.due("room is as it was", x.event(1, 0, 0, 0), 3);
     }
 
     private static void shrinkPlaysByTheNewSettings() {
@@ -140,30 +124,14 @@ public final class ShrinkTest {
         Due.due("THE PLAY loses one", x.count(4), 1);
     }
 
-    private static void setsRefuse() {
-        PartitionPlay x = boaster();
-        Due.due("sets(6) of no play", x.sets(6), OUTSIDE);
-        Due.due("sets(-1) of no play", x.sets(-1), OUTSIDE);
-        Due.due("sets(5) of no play", x.sets(5), STATE);
-        x.play(1);
-        Due.due("sets(6)", x.sets(6), OUTSIDE);
-        Due.due("sets(-1)", x.sets(-1), OUTSIDE);
-        Due.due("sets(5)", x.sets(5), 0);
-    }
-
-    private static void thePlayStays() {
+    private static void theExampleOfTheReadme() {
         PartitionPlay x = boaster();
         x.event(4, 0, 1, 0);
         x.event(4, 0, 2, 0);
-        x.event(5, 0, 0, 1);
-        x.tell(1, 1);
-        x.play(6);
-        String play = Face.ofPlay(x);
-        String schedule = Face.ofSchedule(x);
-        x.delay(0, 1, 2);
-        x.minimal();
-        x.sets(5);
-        Due.dueText("THE PLAY behind minimal and sets", Face.ofPlay(x), play);
-        Due.dueText("THE SCHEDULE behind minimal and sets", Face.ofSchedule(x), schedule);
+        x.event(1, 0, 0, 0);
+        Due.due("README: play(3)", x.play(3), 3);
+        Due.due("README: fails()", x.fails(), 2);
+        Due.due("README: shrink()", x.shrink(), 2);
+        Due.due("README: sets(2)", x.sets(2), 2);
     }
 }
