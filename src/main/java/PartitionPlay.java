@@ -505,7 +505,6 @@ public final class PartitionPlay {
                 heights[node] = 0;
                 known[node] = net.rumours[node];
                 up[node] = true;
-                grew[node] = false;
             }
             group = 0;
         }

@@ -201,9 +201,12 @@ public final class EdgesOfShrinkTest {
 
     private static void eventsBehindAShrink() {
         Due.about("15: EVENTS of THE SCHEDULE go: those told later do not");
-        PartitionPlay x = fullAndFailing();
+        PartitionPlay x = failing();
+        for (int i = 0; i < 18; i++) {
+            x.event(HEAL, i, 0, 0);
+        }
         x.play(3);
-        x.shrink();
+        Due.due("shrink()", x.shrink(), 2);
         for (int number = 2; number < 20; number++) {
             x.event(DOUBLE, 0, 0, 1);
             x.play(3);

@@ -15,6 +15,7 @@ public final class EdgesOfTurnsTest {
         aRiseLeavesWhatTheOthersWereShown();
         aRiseLeavesHeightAndRumours();
         twoCrashesAndOneRise();
+        eachNodeMayCrashAndRise();
         goneToOneThatIsDown();
         notGoneFromOneThatIsDown();
         groupsOfTheComingCount();
@@ -185,6 +186,21 @@ public final class EdgesOfTurnsTest {
         x.play(3);
         Due.dueText("down", Face.heights(x, 1), "1,2");
         Due.dueText("up", Face.heights(x, 2), "2,2");
+    }
+
+    private static void eachNodeMayCrashAndRise() {
+        Due.about("Terms: 2 CRASH: NODE a is DOWN. 3 RISE: it is UP: the first and the last NODE");
+        for (int n = 2; n <= 6; n++) {
+            for (int node = 0; node < n; node++) {
+                PartitionPlay x = new PartitionPlay(n);
+                x.event(CRASH, 1, node, 0);
+                x.event(RISE, 2, node, 0);
+                x.play(3);
+                Due.due("down: node " + node + " of " + n, x.height(1, node), 1);
+                Due.due("up: node " + node + " of " + n, x.height(2, node), 2);
+                Due.due("gone", x.count(6), n - 1);
+            }
+        }
     }
 
     private static void goneToOneThatIsDown() {
